@@ -186,13 +186,16 @@ public final class CompareTest {
 
     private static void feedBoth(SendHall x, NaiveHall y) {
         String text = text();
+        feedBoth(x, y, text, pick(20) == 0 ? pick(text.length() + 30) - 5 : text.length());
+    }
+
+    private static void feedBoth(SendHall x, NaiveHall y, String text, int n) {
         byte[] bytes = Due.bytes(text);
         RUN.add(text);
         for (int i = 0; i < Due.rows(bytes); i++) {
             int[] r = Due.row(bytes, i);
             both("feed", () -> x.feed(r[0], r[1], r[2], r[3], r[4]), () -> y.feed(r[0], r[1], r[2], r[3], r[4]));
         }
-        int n = pick(20) == 0 ? pick(bytes.length + 30) - 5 : bytes.length;
         both("text(" + n + ")", () -> x.text(n), () -> y.text(n));
         both("fault()", x::fault, y::fault);
     }
@@ -270,6 +273,45 @@ public final class CompareTest {
         }
     }
 
+    // ---- texts at the limits
+
+    private static void all(int n, int room, String text) {
+        RUN.clear();
+        SendHall x = new SendHall();
+        NaiveHall y = new NaiveHall();
+        feedBoth(x, y, text, text.length());
+        Due.is("text " + text, -1, x.fault());
+        both("world", () -> x.world(n, room, 2, 3) ? 1 : 0, () -> y.world(n, room, 2, 3) ? 1 : 0);
+        askAll(x, y);
+        for (int many = 0; many < 17; many += 8) {
+            int k = many;
+            both("play(" + k + ", 0)", () -> x.play(k, 0x7654765476547654L), () -> y.play(k, 0x7654765476547654L));
+            askPlay(x, y);
+        }
+        both("chose(63)", () -> x.chose(63), () -> y.chose(63));
+        both("needs", x::needs, y::needs);
+        both("least", () -> x.least(0), () -> y.least(0));
+        cutBoth(x, y);
+    }
+
+    private static void limits() {
+        all(8, 0, "begin(me=0)mark 1word 1;".repeat(29));
+        all(8, 0, "if me<4then " + "any mark 1into a;".repeat(16) + "else " + "begin me-4mark 1word 1;".repeat(16) + "end;");
+        // One HAND behind the other lays what it has: a chain of STATES, with more and more WORDS.
+        String chain = "if 0<me then wait me-1mark 0into a;end;" + "begin(me=0)mark 1word me;".repeat(23)
+                + "if me<n-1then begin me+1mark 0word 1;end;";
+        all(7, 0, chain);
+        all(8, 0, chain);
+        // STATES that differ where 31 times one number and the next one are alike.
+        String pair = "if me=0then any mark 0into c;any mark 0into d;if c=1then set b 31;else set a 1;end;set c 0;set d 0;"
+                + "wait 3mark 1into d;%s else if me<3then begin 0mark 0word me;else begin 0mark 1word 0;end;end;";
+        all(4, 0, String.format(pair, ""));
+        all(4, 0, String.format(pair, "begin 1mark a word b;set a 0;set b 0;wait 3mark 2into a;").replace("1word 0;", "1word 0;begin 0mark 2word 0;"));
+        // A HAND that STOPPED: by which mark it did is no part of the STATE.
+        all(4, 0, "if me=0then any mark 0into a;any mark 0into b;set b 0;begin 3mark 9word a;any mark a into a most 1;"
+                + "else if me<3then begin 0mark 0word me;else wait 0mark 9into c;meet 0mark c word 5long 2;set c 0;all;end;end;");
+    }
+
     private static void oneCall(SendHall x, NaiveHall y) {
         switch (pick(9)) {
             case 0:
@@ -304,6 +346,7 @@ public final class CompareTest {
     public static void main(String[] args) {
         int runs = args.length > 0 ? Integer.parseInt(args[0]) : 1500;
         seed += args.length > 1 ? Integer.parseInt(args[1]) : 0;
+        limits();
         for (int run = 0; run < runs; run++) {
             RUN.clear();
             SendHall x = new SendHall();

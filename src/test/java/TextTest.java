@@ -88,6 +88,14 @@ public final class TextTest {
         bad("wait 1 mark 0 into a long 3;", 1, 21);
         bad("any 1 mark 0 into a;", 1, 4);
         bad("sum 1 < 2 into a;", 1, 6);
+        bad("meet 1 mark 0 < 1 word 1;", 1, 14);
+        bad("begin 1 mark 0 word 1 = 1;", 1, 22);
+        bad("wait 1 < 2 mark 0 into a;", 1, 7);
+        bad("wait 1 mark 0 < 1 into a;", 1, 14);
+        bad("any mark 0 = 0 into a;", 1, 11);
+        bad("send 1 mark 0 word 1 long;", 1, 25);
+        bad("any mark 0 into a most;", 1, 22);
+        bad("any mark 0 into a most", 1, 22);
         bad("if 1 then else else end;", 1, 15);
         bad("if 1 then done; end", 1, 19);
         bad("if 1 then done;", 1, 15);
@@ -134,6 +142,8 @@ public final class TextTest {
     private static void noSuchName() {
         bad("tell foo;", 3, 5);
         bad("tell mmost;", 3, 5);
+        bad("tell z;", 3, 5);
+        bad("tell az;", 3, 5);
         bad("tell end;", 3, 5);
         bad("send mark 0 word 1;", 3, 5);
         bad("tell 1 + e;", 3, 9);
@@ -201,6 +211,22 @@ public final class TextTest {
         expr("0007", 7);
     }
 
+    private static void largeTexts() {
+        SendHall x = new SendHall();
+        String most = "tell 1" + "+1".repeat(346) + ";;";
+        Due.is("3: 700 bytes", 1, () -> Due.text(x, most));
+        Due.is("4: the last of them", 699, x::fault);
+        for (int i = 0; i < 20; i++) {
+            Due.is("3: 699 bytes, time and again", 0, () -> Due.text(x, most.substring(0, 699)));
+            x.play(0, 0);
+            Due.is("3: 347 ones", 347, () -> x.of(0, 3));
+        }
+        // Within each parenthesis a test, a sum and a product wait for what stands in the next.
+        String deep = "0 < 1 + 2 * (".repeat(6) + "3" + ")".repeat(6);
+        expr(deep, 1);
+        expr("2 * (3 + 4 * (5 + 6 * (7 + 8 * (9 - 2 * (3 - 4 * (5 + 6))))))", 2 * (3 + 4 * (5 + 6 * (7 + 8 * (9 - 2 * (3 - 44))))));
+    }
+
     private static void promise5() {
         SendHall x = new SendHall();
         Due.holds("5: most", true, x.world(8, 3, 99, 99));
@@ -250,6 +276,7 @@ public final class TextTest {
         promise2();
         promise3And4();
         exprs();
+        largeTexts();
         promise5();
         promise6();
         promise7();
