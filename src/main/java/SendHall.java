@@ -445,7 +445,7 @@ public final class SendHall {
             many = 0;
             now = 0;
             int from = 0;
-            while (from < length) {
+            for (int i = 0; i < BYTES && from < length; i++) {
                 int to = endOf(from, length);
                 if (!isBlank(from)) {
                     addToken(sortOf(from, to), from, numberOf(from, to));

@@ -97,6 +97,53 @@ final class Due {
         return hall(text, n, room, 0, 0);
     }
 
+    /** All that an object tells without being changed, but for THE TEXT's FAULT and the tape: some 200 calls at most. */
+    static String told(SendHall x) {
+        StringBuilder b = new StringBuilder();
+        int n = x.count(2);
+        int steps = x.count(0);
+        for (int what = 0; what < 6; what++) {
+            int w = what;
+            note(b, "count", () -> x.count(w));
+        }
+        note(b, "reached", x::reached);
+        note(b, "differs", () -> x.differs() ? 1 : 0);
+        note(b, "needs", x::needs);
+        for (int what = -1; what < 3; what++) {
+            int w = what;
+            note(b, "endings", () -> x.endings(w));
+        }
+        for (int what = 0; what < 4 + n; what++) {
+            int w = what;
+            note(b, "ending", () -> x.ending(0, w));
+        }
+        for (int step = 0; step < Math.min(steps, 12); step++) {
+            int s = step;
+            note(b, "step", () -> x.step(s));
+            note(b, "could", () -> x.could(0, s));
+            note(b, "left", () -> x.left(s) ? 1 : 0);
+        }
+        for (int what = 0; what < 12 * n; what++) {
+            int w = what;
+            note(b, "of", () -> x.of(w % n, w / n));
+        }
+        for (int i = -1; i < 3; i++) {
+            int k = i;
+            note(b, "ring", () -> x.ring(k));
+            note(b, "chose", () -> x.chose(k));
+        }
+        return b.toString();
+    }
+
+    private static void note(StringBuilder b, String call, Call made) {
+        b.append(call).append(' ').append(name(answer(made))).append('\n');
+    }
+
+    /** That two told() are the same: a call changed nothing. */
+    static void same(String what, String before, String after) {
+        is(what + " changes nothing", 1, before.equals(after) ? 1 : 0);
+    }
+
     /** Ends the test's program: with 1 if an answer was not the one that is due. */
     static void end(String test) {
         System.out.println(test + ": " + asked + " asked, " + wrong + " wrong");
